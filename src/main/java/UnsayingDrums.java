@@ -527,6 +527,7 @@ public final class UnsayingDrums {
         int sorts;
         int hour;
         int law;
+        /** Only for reading on: places are told ahead of any x. */
         private boolean minutesTold;
         private final int[] minutes = new int[MOST_PLACES * MOST_PLACES];
 
@@ -554,7 +555,6 @@ public final class UnsayingDrums {
             sorts = other.sorts;
             hour = other.hour;
             law = other.law;
-            minutesTold = other.minutesTold;
             for (int i = 0; i < minutes.length; i++) {
                 minutes[i] = other.minutes[i];
             }

@@ -46,6 +46,7 @@ public final class PromiseTest {
         forget();
         secret();
         secretBehindItsMinute();
+        secretAmongThoseOnTheirWay();
         chance();
         day();
         keepAndBack();
@@ -150,6 +151,16 @@ public final class PromiseTest {
         x.lay();
         x.wipe();
         due("what is laid stays", x.count(0), 3);
+        // what was wiped is not read behind what is written next
+        String[] whole = {"h12;", "h5;", "x0,1,4;", "w7;", "p3;h9;"};
+        String[] cut = {"h1", "h5", "x0,1,", "w", "p3;h"};
+        for (int i = 0; i < whole.length; i++) {
+            x.wipe();
+            put(x, whole[i]);
+            x.wipe();
+            put(x, cut[i]);
+            due("fault of " + cut[i] + " where " + whole[i] + " was", x.fault(), i == 4 ? 3 : 0);
+        }
     }
 
     private static void fault() {
@@ -162,7 +173,8 @@ public final class PromiseTest {
         String[] bad = {"p", "p1", ";", "p;", "p0;", "p6;", "p00;", "p001;", "p1,2;", "p-1;", "p 1;", "P1;", "q1;", "x;", "x0;",
             "x0,1;", "x0,1,1,1;", "x0,1,1", "x0,1,61;", "x0,0,1;", "x0,2,1;", "x2,0,1;", "x,1,1;", "x0,,1;", "x0,1,;", "x0;1;1;",
             "x0,1,100;", "h;", "h0;", "h61;", "h060;", "h99;", "l3;", "l;", "f0;", "f1;", "f9;", "f;", "w;", "w8;", "w9;", "w08;",
-            "w01234;", "w0,1;", "w0", "w", "0;", "h5,", "h5:", "\u00f0" + "1;", "\u0000"};
+            "w01234;", "w0,1;", "w0", "w", "0;", "h5,", "h5:", "h:;", "h5:;", "h/;", "h5/;", "x0,1,:;",
+            "w:;", "w/;", "\u00f0" + "1;", "\u0000"};
         for (String text : bad) {
             due("fault of " + text, faultOf(text), 0);
             due("fault of p2; and " + text, faultOf("p2;" + text), 3);
@@ -184,6 +196,13 @@ public final class PromiseTest {
             full.append("h7;");
         }
         due("three hundred bytes", faultOf(full.toString()), NONE);
+        // three hundred that end within an item: nothing is behind them
+        String most = full.substring(0, 291);
+        String[] ends = {"h7;h7;h12", "h7;h7;w12", "h7;h7;p1,", "h12;h7;h1", "h12;h7;x0", "h12;h12;h", "h12;h12;w"};
+        int[] due = {297, 297, 297, 298, 298, 299, 299};
+        for (int i = 0; i < ends.length; i++) {
+            due("fault at the end in " + ends[i], faultOf(most + ends[i]), due[i]);
+        }
     }
 
     private static void lay() {
@@ -326,6 +345,11 @@ public final class PromiseTest {
         due("no beat", x.count(3), 0);
         due("minute 0", x.count(4), 0);
         due("no more", x.undo(), NO);
+        x.drum(1, 5);
+        x.pass(1);
+        due("undo of one minute", x.undo(), 1);
+        due("the beat is there yet", x.count(3), 1);
+        due("undo of it", x.undo(), 0);
         for (int n = 1; n <= 9; n++) {
             x.pass(n);
         }
@@ -512,6 +536,15 @@ public final class PromiseTest {
         due("place 2", x.meaning(2, 10, 0), BAD);
         due("minute -1", x.meaning(0, -1, 0), BAD);
         due("minute 10000", x.meaning(0, 10000, 0), BAD);
+        UnsayingDrums y = laid("h1;w21;w2130;w213;w2;");
+        for (int s : new int[] {2, 1, 3, 0, 2, 1, 3, 3, 2, 2, 1}) {
+            y.drum(1, s);
+            y.pass(1);
+        }
+        int[] longest = {1, 2, 3, 0, NONE};
+        for (int i = 0; i < longest.length; i++) {
+            due("the longest, not the first or last: " + i, y.meaning(1, 11, i), longest[i]);
+        }
         UnsayingDrums none = new UnsayingDrums();
         none.drum(0, 0);
         due("no book", none.meaning(0, 9999, 0), NONE);
@@ -696,6 +729,20 @@ public final class PromiseTest {
         due("by what comes, two and two that stand for nothing", x.mends(1), 4);
         due("place 2", x.mends(2), BAD);
         due("place -1", x.mends(-1), BAD);
+        UnsayingDrums old = laid("h2;");
+        old.drum(0, 0);
+        old.pass(1);
+        // at 1 it is taken back, from 2 on it is said for good
+        row(old, "");
+        due("in time", old.mends(0), 1);
+        row(old, "00");
+        due("3, 3 that takes it back, 0 an hour behind", old.mends(0), 3);
+        row(old, "030");
+        due("3 now, 0 an hour behind", old.mends(0), 2);
+        UnsayingDrums zero = laid("");
+        zero.drum(0, 0);
+        row(zero, "1");
+        due("not any row with a 0", zero.mends(0), 2);
         UnsayingDrums since = laid("l1;");
         for (int s = 0; s < 5; s++) since.drum(0, s);
         row(since, "");
@@ -829,6 +876,27 @@ public final class PromiseTest {
         due("that one", y.secret(1), 130000);
     }
 
+    private static void secretAmongThoseOnTheirWay() {
+        UnsayingDrums x = laid("p3;x0,1,5;x0,2,6;");
+        x.pass(1);
+        x.drum(1, 1);
+        x.pass(2);
+        x.drum(0, 2);
+        x.pass(4);
+        standsAs(x, 0, 7, "21");
+        row(x, "231");
+        x.tell(0);
+        // at 0 minutes 3, 4, 5; at 1 minute 0 (heard at 5); at 2 minute 0: heard at 6 with the 1, but drummed ahead of it
+        due("between them", x.secret(0), 5);
+        due("the first", x.secret(1), 30003);
+        x.forget();
+        row(x, "213");
+        x.tell(0);
+        // at 0 minutes 6 and 7; at 1 minutes 1 (heard with it, behind it) and 2; at 2 minute 1 (heard at 7)
+        due("behind them", x.secret(0), 5);
+        due("the first", x.secret(1), 30006);
+    }
+
     private static void chance() {
         UnsayingDrums x = laid("f4;h5;");
         due("now, none: above", x.chance(0, 1, 0, 0), 0);
@@ -862,6 +930,9 @@ public final class PromiseTest {
         due("n -1", x.chance(0, 0, -1, 0), BAD);
         due("part 2", x.chance(0, 0, 1, 2), BAD);
         due("part -1", x.chance(0, 0, 1, -1), BAD);
+        due("sort 0 now: above", x.chance(0, 0, 0, 0), 0);
+        due("sort 0: above", x.chance(0, 0, 2, 0), 3);
+        due("sort 0: below", x.chance(0, 0, 2, 1), 8);
         UnsayingDrums never = laid("f3;l1;");
         never.drum(0, 0);
         never.drum(0, 2);
@@ -879,6 +950,8 @@ public final class PromiseTest {
         x.pass(9);
         due("what was drummed is nothing to it", x.day(5, 99, 0), 17);
         due("nor it to that", x.count(3), 1);
+        due("something stands", x.stands(0, 9, -1), 1);
+        due("that, too, is nothing to it", x.day(5, 99, 0), 17);
         due("z -1", x.day(-1, 1, 0), BAD);
         due("z 10000", x.day(10000, 1, 0), BAD);
         due("n 0", x.day(0, 0, 0), BAD);
@@ -912,6 +985,7 @@ public final class PromiseTest {
         due("beats", x.count(3), 2);
         due("its place", x.beat(1, 0), 1);
         due("its sort", x.beat(1, 1), 2);
+        due("its minute", x.beat(1, 2), 5);
         due("minute", x.count(4), 5);
         due("nothing is UNDONE then", x.undo(), NO);
         due("the told row stays", x.count(5), 2);
@@ -926,6 +1000,24 @@ public final class PromiseTest {
         due("none left", x.back(), NO);
         due("nothing changes then", x.count(7), 1);
         due("keep again", x.keep(), 1);
+        // what is kept does not change by what is drummed in its stead
+        x.pass(3);
+        x.drum(1, 3);
+        x.keep();
+        x.undo();
+        x.pass(2);
+        x.drum(0, 4);
+        x.back();
+        int[] due = {1, 3, 5};
+        for (int what = 0; what < 3; what++) {
+            due("kept beat, " + what, x.beat(1, what), due[what]);
+        }
+        x.undo();
+        x.back();
+        int[] first = {0, 1, 0};
+        for (int what = 0; what < 3; what++) {
+            due("first kept beat, " + what, x.beat(0, what), first[what]);
+        }
     }
 
     private static void count() {

@@ -50,11 +50,19 @@ public final class ModelTest {
         if (draws.nextInt(4) > 0) {
             if (!layText(goodText())) return false;
         }
+        if (draws.nextInt(8) == 0 && !passToTheLastMinutes()) return false;
         for (int i = 0; i < CALLS; i++) {
             if (draws.nextInt(150) == 0 && !layText(draws.nextBoolean() ? goodText() : badText())) return false;
             if (!call(drawName())) return false;
         }
         return true;
+    }
+
+    private boolean passToTheLastMinutes() {
+        boolean alike = true;
+        for (int i = 0; i < 16 && alike; i++) alike = same("pass(600)", drums.pass(600), model.pass(600));
+        int rest = 300 + draws.nextInt(99);
+        return alike && same("pass(" + rest + ")", drums.pass(rest), model.pass(rest));
     }
 
     private int drawName() {

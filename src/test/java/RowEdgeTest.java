@@ -51,6 +51,11 @@ public final class RowEdgeTest {
         // behind the last minute, and behind the last beat that there is room for
         at("", 9999).then("drum 0 1").still("unsay 0 0 1", 1);
         Run.laid("").then(ALL).then(ALL).then(ALL).due("count 3", 24).still("unsay 0 7 1", 1).still("open 0", 8);
+        // as many as can stand: the last of 24
+        Run most = Run.laid("h1;x0,1,0;").then("drum 0 5");
+        for (int i = 1; i < 24; i++) most.then("pass 1, drum 0 5");
+        most.due("stands 0 23 -1", 24).due("unsay 0 22 0", 0).due("unsay 0 23 0", 1).due("unsay 0 23 1", 1).due("unsay 1 23 1", 1)
+            .due("unsay 0 24 0", NONE).due("open 0", 1).due("open 1", 1);
     }
 
     /** "(what was DRUMMED till now is heard as it comes)" */
@@ -124,7 +129,9 @@ public final class RowEdgeTest {
     /** "how many minutes from now the last is (0: no row)" */
     private static void takesNothing() {
         Run.fresh().still("takes 0", 0).due("takes 1", 0);
-        Run.laid("h60;").then("drum 0 1, pass 7").still("takes 0", 0);
+        // no row waits for nothing, whatever stands and whatever row there was
+        Run.laid("h60;").then("drum 0 0, pass 7").still("takes 0", 0);
+        Run.laid("h60;").row("5").then("noRow, drum 0 5").still("takes 0", 0);
         Run.fresh().row("1").still("takes 0", 0).due("takes 1", 0);
     }
 
@@ -206,6 +213,10 @@ public final class RowEdgeTest {
         Run nine = Run.laid("h1;");
         for (int i = 0; i < 9; i++) nine.then("drum 0 1, pass 1");
         nine.row("11111111").due("mends 0", NONE);
+        // 24 stand, and four more are thought of: a told row is shorter than that
+        Run most = Run.laid("h1;");
+        for (int i = 0; i < 24; i++) most.then("drum 0 1, pass 1");
+        most.due("stands 0 24 -1", 24).row("11111111").due("mends 0", NONE).then("noRow").due("mends 0", NONE);
         // only of the sorts that there are
         Run.laid("f2;h60;").row("10").due("mends 0", 2).row("1010").due("mends 0", NONE);
     }

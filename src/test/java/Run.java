@@ -48,7 +48,12 @@ final class Run {
         checks++;
         if (so) return;
         wrong++;
-        if (wrong <= 30) System.out.println(what + ", behind " + run.calls);
+        if (wrong <= 20) System.out.println(what + ", behind " + run.lately());
+    }
+
+    private String lately() {
+        int more = Math.max(0, calls.size() - 40);
+        return (more == 0 ? "" : more + " calls more and ") + calls.subList(more, calls.size());
     }
 
     int call(String told) {
@@ -117,7 +122,11 @@ final class Run {
 
     /** All that can be seen is as on another run, which ends with this. */
     Run sameAs(Run other, String what) {
-        check(what, this, seen().equals(other.seen()));
+        return seesAs(other.seen(), what);
+    }
+
+    Run seesAs(List<Integer> due, String what) {
+        check(what, this, seen().equals(due));
         return this;
     }
 

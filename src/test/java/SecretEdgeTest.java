@@ -93,6 +93,12 @@ public final class SecretEdgeTest {
             .due("secret 0", 1).due("secret 1", 30002);
         Run.laid("x0,1,2;").then("pass 1, drum 1 1, pass 2, drum 0 2").stands(0, 3, "12").row("132").then("tell 0")
             .due("secret 0", 1).due("secret 1", 130001);
+        // the 1 of minute 1 is heard at 6; from 2 a beat of minute 0 is heard then, too, ahead of it, one of minute 1 behind it
+        String text = "p3;x0,1,5;x0,2,6;";
+        String beats = "pass 1, drum 1 1, pass 2, drum 0 2, pass 3";
+        Run.laid(text).then(beats).stands(0, 6, "21").row("231").then("tell 0").due("secret 0", 5).due("secret 1", 30003);
+        Run.laid(text).then(beats).row("213").then("tell 0").due("secret 0", 2).due("secret 1", 30006);
+        Run.laid("p3;x0,1,5;x0,2,5;").then(beats).row("213").then("tell 0").due("secret 0", 3).due("secret 1", 30006);
     }
 
     /** "the first (by PLACE, then SORT, then minute), as 100000 PLACE, 10000 SORT and minute together" */
@@ -202,6 +208,12 @@ public final class SecretEdgeTest {
         Run full = Run.laid("h60;").then(ALL).then(ALL).then(ALL);
         full.due("drum 0 0", FULL);
         chance(full, "0 0 1", 7, 8);
+        // 24 stand, and four more come behind them: it is in none of these, or in one of them
+        Run most = Run.laid("h1;");
+        for (int i = 0; i < 24; i++) most.then("drum 0 0, pass 1");
+        most.due("stands 0 24 -1", 24);
+        chance(most, "0 7 4", 1695, 4096);
+        chance(most, "0 7 1", 1, 8);
     }
 
     /** "By CHANCE: above (part = 0), below (1). BAD." */
@@ -274,6 +286,11 @@ public final class SecretEdgeTest {
         run.due("beat 0 0", 2).due("beat 1 1", 2).due("beat 2 2", 9).due("beat 3 0", BAD).stands(0, 9, "123");
         run.due("pass 1", 10).due("count 7", 1).due("back", 0).due("count 3", 1).due("count 4", 4).due("count 7", 0).still("undo", NO)
             .due("beat 0 0", 2).due("beat 0 1", 1).due("beat 0 2", 0).due("beat 1 0", BAD).still("back", NO);
+        // each beat is kept whole, from the first on
+        Run.laid("p3;").then("pass 1, drum 2 5, keep, undo, undo, drum 1 6").due("beat 0 0", 1).due("back", 0).due("beat 0 0", 2)
+            .due("beat 0 1", 5).due("beat 0 2", 1).due("count 4", 1);
+        Run.laid("p3;").then("drum 2 5, pass 1, drum 1 4, keep, undo, undo, undo, pass 9, drum 0 7, pass 9, drum 0 6").due("back", 0)
+            .due("beat 0 0", 2).due("beat 0 1", 5).due("beat 0 2", 0).due("beat 1 0", 1).due("beat 1 1", 4).due("beat 1 2", 1);
         // the told row, what is told of secrets, the text and what is laid are not kept
         Run other = Run.laid("p3;").row("1").then("tell 0, keep").row("22").then("tell 1, tell 2").put("h5;").due("back", 0);
         int[] due = {3, 8, 0, 0, 0, 2, 3, 0, 0, 6};

@@ -27,6 +27,7 @@ public final class TextEdgeTest {
         layForgetsAll();
         delayArguments();
         wordArguments();
+        fiveHundredAndTwelveCalls();
         Run.end("text edges");
     }
 
@@ -407,5 +408,13 @@ public final class TextEdgeTest {
         run.due("word 2 9", BAD).due("word 2 -1", BAD).due("word -1 9", BAD);
         // words are as laid, not as written
         run.then("wipe").put("w7;").due("word 1 3", 3).then("lay").due("word 0 0", 7).due("word 1 0", BAD).due("word 0 1", NONE);
+    }
+
+    /** "An object is used for at most 512 calls after it has been made": the last of them is answered as the first. */
+    private static void fiveHundredAndTwelveCalls() {
+        Run run = Run.fresh();
+        for (int i = 0; i < 100; i++) run.due("keep", 1).due("drum 1 7", 1).due("pass 600", 600).due("undo", 1).due("back", 0);
+        run.put("p5;x0,4,60;").due("write 1 59", 12).due("fault", 11).due("wipe", 12).put("p5;").due("lay", 5).due("drum 4 7", 1);
+        run.due("pass 600", 600).due("stands 0 3 0", 7).due("stands 0 3 1", Run.NONE).due("beat 0 0", 4);
     }
 }

@@ -5,6 +5,8 @@ import java.util.StringJoiner;
 public final class ModelTest {
     private static final int RUNS = 1500;
     private static final int CALLS = 300;
+    /** The document promises nothing behind the 512th call of an object; a text takes up to some 150 to lay. */
+    private static final int MOST_CALLS = 512, ROOM_FOR_A_TEXT = 180;
     private static final String[] NAMES = {"write", "wipe", "fault", "lay", "delay", "word", "drum", "pass", "undo",
         "beat", "stands", "said", "meaning", "unsay", "open", "add", "noRow", "takes", "mends", "spoiled", "tell",
         "forget", "secret", "chance", "day", "keep", "back", "count"};
@@ -18,6 +20,7 @@ public final class ModelTest {
     private Model model = new Model();
     private final StringJoiner log = new StringJoiner("\n  ");
     private final int[] answered;
+    private int made = 0;
 
     private ModelTest(long seed, int[] answered) {
         draws = new Random(seed);
@@ -51,7 +54,7 @@ public final class ModelTest {
             if (!layText(goodText())) return false;
         }
         if (draws.nextInt(8) == 0 && !passToTheLastMinutes()) return false;
-        for (int i = 0; i < CALLS; i++) {
+        for (int i = 0; i < CALLS && made + ROOM_FOR_A_TEXT < MOST_CALLS; i++) {
             if (draws.nextInt(150) == 0 && !layText(draws.nextBoolean() ? goodText() : badText())) return false;
             if (!call(drawName())) return false;
         }
@@ -126,6 +129,8 @@ public final class ModelTest {
     }
 
     private boolean same(String call, int got, int due) {
+        made++;
+        if (made > MOST_CALLS) throw new IllegalStateException("more calls than are promised");
         log.add(call + " = " + got + (got == due ? "" : ", the model says " + due));
         return got == due;
     }

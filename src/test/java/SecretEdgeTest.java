@@ -44,6 +44,10 @@ public final class SecretEdgeTest {
             run.still("tell " + n, BAD).still("tell -1", BAD).due("count 6", Math.min(3, n)).due("forget", Math.min(3, n));
         }
         Run.laid("p5;").due("tell 4", 1).due("tell 2", 2).due("tell 3", 3).still("tell 0", FULL).still("tell 4", NO).still("tell 5", BAD);
+        // what is refused is not told in the stead of another: not of its place, and not with the row that is told now
+        String near = "p4;x0,1,0;x0,2,0;x0,3,0;x1,2,0;x1,3,0;x2,3,0;";
+        Run.laid(near).row("3").then("tell 0, tell 1, tell 2, noRow").still("tell 3", FULL).still("tell 2", NO).still("tell 0", NO)
+            .still("tell 4", BAD).due("secret 0", 4).due("secret 1", 30000).due("forget", 3);
     }
 
     /** "(the told one, as it is when it is told so)" */

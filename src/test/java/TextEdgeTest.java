@@ -309,7 +309,9 @@ public final class TextEdgeTest {
         fault(eight + "h5;w0000;", 27);
         fault("w7777;w7776;w7775;w7774;w7773;w7772;w7771;w7770;w1;", 48);
         for (int n = 0; n <= 8; n++) Run.laid(eight.substring(0, 3 * n)).due("count 2", n).due("word " + n + " 0", BAD);
+        // S is of the figures 0 to 7, however many SORTS there are
         Run.laid("f2;w7;").due("word 0 0", 7);
+        Run.laid("w7;f2;").due("word 0 0", 7).due("count 1", 2);
     }
 
     /** "none twice)" */

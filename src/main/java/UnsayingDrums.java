@@ -326,7 +326,8 @@ public final class UnsayingDrums {
             queue.insert(restOf(draw / 8, laid.sorts), minute, minute + laid.minutesBetween(from, p));
         }
         row.empty();
-        row.hearTo(queue, Integer.MAX_VALUE);
+        // all of them: 98 times 4 minutes and the longest way end far below
+        row.hearTo(queue, LAST_MINUTE);
         return row.size;
     }
 
